@@ -7,7 +7,7 @@ public final class SkinInRafters {
     private static final String FIRST_TEXT = "p0,5;p0,5;p1,2;s0,6,0;s2,6,1;l0,1,1;l1,2,2;";
     private static final int MOST_BYTES = 300, MOST_NUMBERS = 3;
     private static final int MOST_PLACES = 9, MOST_SKINS = 5, MOST_LOOKS = 9;
-    private static final int MOST_SEEN = 8, MOST_UNDONE = 8, MOST_KEPT = 2;
+    private static final int MOST_SEEN = 8, MOST_UNDONE = 8;
     private static final int LAST_HOUSE = 5, MOST_VIEW = 10, MOST_SIZE = 20, MOST_SMOKE = 60, MOST_TIDE = 20;
     private static final int LAST_DAY = 60, LAST_TIDE_DAY = 80, LAST_SEARCH_DAY = 40, LAST_YEAR = 9999;
     // STAY, 0, needs no name: what is moved by none of these stays.
@@ -542,7 +542,8 @@ public final class SkinInRafters {
         }
 
         int girthOn(int i, int day) {
-            return smoke < 1 ? girth[i] : Math.max(1, girth[i] - day / smoke);
+            int smaller = smoke < 1 ? girth[i] : girth[i] - day / smoke;
+            return smaller < 1 ? 1 : smaller;
         }
 
         boolean suits(int woman, int i, int day) {
@@ -790,10 +791,11 @@ public final class SkinInRafters {
     /** What is KEPT, the latest last. */
     private static final class Shelf {
         int held = 0;
+        // As many as can be KEPT.
         private final Hiding[] rows = {new Hiding(), new Hiding()};
 
         boolean put(Hiding hiding) {
-            if (held >= MOST_KEPT || held >= rows.length) {
+            if (held >= rows.length) {
                 return false;
             }
             rows[held].copyOf(hiding);

@@ -188,6 +188,32 @@ final class LotsYearsTest {
         x.look(0, 0, 4);
         x.back();
         due.is("looks as kept", x.count(2), 2);
+        backToOtherLooks();
+    }
+
+    private static void backToOtherLooks() {
+        SkinInRafters x = Towns.laid("p0,5;p0,5;s0,1,0;s0,9,0;");
+        x.look(1, 0, 5);
+        x.keep();
+        String kept = Towns.whole(x);
+        x.undo();
+        x.look(0, 1, 7);
+        x.hide(0, 1);
+        due.is("another look in its stead", x.woman(0, 1), 7);
+        due.is("back", x.back(), 0);
+        due.are("who looked", new int[] {x.woman(0, 1), x.woman(1, 1), x.woman(1, 0)}, NONE, 5, 1);
+        due.is("as it was kept", Towns.whole(x).equals(kept.replaceFirst("^2 2 1 0 1 1 ", "2 2 1 0 0 0 ")) ? 1 : 0, 1);
+        SkinInRafters y = Towns.laid("p0,5;p0,5;s0,5,0;");
+        int[][] others = {{0, 1, 5}, {0, 0, 6}};
+        for (int[] other : others) {
+            y.look(0, 0, 5);
+            y.keep();
+            y.undo();
+            y.look(other[0], other[1], other[2]);
+            y.back();
+            due.is("the look that was kept", y.woman(0, 1), 5);
+            y.lay();
+        }
     }
 
     private static void count() {
