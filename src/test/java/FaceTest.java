@@ -100,6 +100,11 @@ final class FaceTest {
         }
         String imports = String.join(" ", code.lines().filter(l -> l.startsWith("import")).toList());
         due.is("imports: " + imports, imports.equals("import java.util.Arrays;") ? 1 : 0, 1);
+        for (String line : code.split("\n")) {
+            // Rows are made with the object that holds them: a call that made some would fill the room.
+            boolean held = line.matches(" {4,8}(private )?(final )?\\w+(\\[\\])* \\w+ = [^()]*new .*;");
+            due.is("made by no call: " + line.trim(), !line.matches(".*\\bnew\\b.*") || held ? 1 : 0, 1);
+        }
         due.is("the methods stay short", longest(code) <= 60 ? 1 : 0, 1);
     }
 

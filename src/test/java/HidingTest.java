@@ -14,7 +14,7 @@ final class HidingTest {
         due.end();
     }
 
-    private static int[] best(SkinInRafters x, int i) {
+    private static int[] best(Run x, int i) {
         return new int[] {x.best(i, 0), x.best(i, 1)};
     }
 
@@ -27,17 +27,17 @@ final class HidingTest {
         // By NEXT of three it is at place 0 on days 3, 6, 9.. from 1, and on 2, 5.. from 2.
         due.are("moved", best(Towns.laid("p0,5;p0,5;p0,5;s0,9,1;l0,0,1;l0,0,3;l0,0,5;"), 0), 2, 5);
         due.are("one who does not fit stays", best(Towns.laid("p0,5;p0,5;s0,9,0;w1;l0,0,3;l0,1,2;"), 0), 0, NONE);
-        SkinInRafters x = Towns.laid("p0,5;p0,5;s0,9,0;s0,9,1;l0,0,1;");
+        Run x = Towns.laid("p0,5;p0,5;s0,9,0;s0,9,1;l0,0,1;");
         for (int i : new int[] {-1, 2, 5, Integer.MIN_VALUE, Integer.MAX_VALUE}) {
             due.is("best(" + i + ", 0)", x.best(i, 0), BAD);
             due.is("best(" + i + ", 1)", x.best(i, 1), BAD);
         }
         due.is("best(0, -1)", x.best(0, -1), BAD);
         due.is("best(0, 2)", x.best(0, 2), BAD);
-        String before = Towns.whole(x);
+        String before = x.whole();
         x.best(0, 0);
         x.best(1, 1);
-        due.is("best changes nothing", Towns.whole(x).equals(before) ? 1 : 0, 1);
+        due.same("best changes nothing", x.whole(), before);
     }
 
     private static void bestWithOthers() {
@@ -46,7 +46,7 @@ final class HidingTest {
         // At place 1 woman 1 takes it on day 1, and woman 0 finds none at all.
         due.are("another takes hers", best(Towns.laid("p0,5;p0,5;s0,9,0;s0,1,0;s0,9,0;l2,1,1;l0,0,2;l0,1,2;"), 0), 0, 2);
         due.are("another takes hers, none is left", best(Towns.laid("p0,5;p0,5;s0,9,0;s0,9,0;l1,1,1;l0,1,2;l0,1,3;l0,0,1;"), 1), 0, NONE);
-        SkinInRafters x = Towns.laid("p0,5;p0,5;s0,9,0;l0,0,3;");
+        Run x = Towns.laid("p0,5;p0,5;s0,9,0;l0,0,3;");
         due.are("ahead of a look", best(x, 0), 1, NONE);
         x.look(0, 1, 2);
         due.are("behind a look", best(x, 0), 0, 3);
@@ -55,7 +55,7 @@ final class HidingTest {
     }
 
     private static void hide() {
-        SkinInRafters x = new SkinInRafters();
+        Run x = new Run();
         due.is("hide(1, 0)", x.hide(1, 0), 2);
         due.is("it is there", x.skin(1, 0), 0);
         due.are("and goes from there", Towns.course(x, 1, 4), 0, 1, 2, 0);
@@ -65,19 +65,19 @@ final class HidingTest {
         due.is("hide to where it is", x.hide(1, 1), 1);
         due.is("that can be undone too", x.count(4), 3);
         due.is("starts do not change", x.starts(1), 7);
-        String before = Towns.whole(x);
+        String before = x.whole();
         for (int p : WRONG) {
             due.is("hide(0, " + p + ")", x.hide(0, p), BAD);
         }
         for (int i : new int[] {-1, 2, 5, Integer.MIN_VALUE, Integer.MAX_VALUE}) {
             due.is("hide(" + i + ", 0)", x.hide(i, 0), BAD);
         }
-        due.is("BAD changes nothing", Towns.whole(x).equals(before) ? 1 : 0, 1);
+        due.same("BAD changes nothing", x.whole(), before);
     }
 
     private static void look() {
-        SkinInRafters x = new SkinInRafters();
-        String before = Towns.whole(x);
+        Run x = new Run();
+        String before = x.whole();
         for (int p : WRONG) {
             due.is("look(0, " + p + ", 1)", x.look(0, p, 1), BAD);
         }
@@ -87,7 +87,7 @@ final class HidingTest {
         for (int t : new int[] {-1, 0, 61, Integer.MIN_VALUE, Integer.MAX_VALUE}) {
             due.is("look(0, 0, " + t + ")", x.look(0, 0, t), BAD);
         }
-        due.is("BAD changes nothing", Towns.whole(x).equals(before) ? 1 : 0, 1);
+        due.same("BAD changes nothing", x.whole(), before);
         for (int k = 3; k <= 9; k++) {
             due.is("look", x.look(1, 2, 60), k);
         }
@@ -99,22 +99,22 @@ final class HidingTest {
         due.is("undo", x.undo(), 6);
         due.is("look in its stead", x.look(0, 0, 1), 9);
         due.is("found by it", x.woman(0, 1), 1);
-        SkinInRafters told = Towns.laid("p0,5;s0,9,0;" + "l0,0,1;".repeat(9));
+        Run told = Towns.laid("p0,5;s0,9,0;" + "l0,0,1;".repeat(9));
         due.is("nine told in the text", told.look(0, 0, 1), FULL);
     }
 
     private static void undo() {
-        SkinInRafters x = new SkinInRafters();
+        Run x = new Run();
         due.is("undo of nothing", x.undo(), NO);
-        String first = Towns.whole(x);
+        String first = x.whole();
         x.hide(0, 2);
-        String second = Towns.whole(x);
+        String second = x.whole();
         x.look(0, 2, 4);
         due.is("found", x.woman(0, 1), 4);
         due.is("undo the look", x.undo(), 1);
-        due.is("as before the look", Towns.whole(x).equals(second) ? 1 : 0, 1);
+        due.same("as before the look", x.whole(), second);
         due.is("undo the hiding", x.undo(), 0);
-        due.is("as at first", Towns.whole(x).equals(first) ? 1 : 0, 1);
+        due.same("as at first", x.whole(), first);
         due.is("undo no more", x.undo(), NO);
         due.is("the looks told in the text stay", x.count(2), 2);
         x.hide(0, 0);
@@ -132,7 +132,7 @@ final class HidingTest {
     }
 
     private static void undoOfMany() {
-        SkinInRafters x = new SkinInRafters();
+        Run x = new Run();
         int[] at = {1, 2, 0, 2, 1, 0, 1, 2, 0, 1, 2};
         for (int p : at) {
             x.hide(1, p);
@@ -148,7 +148,7 @@ final class HidingTest {
         due.are("where it was", where, 1, 0, 2, 1, 0, 1, 2, 0);
         due.is("no more than eight", x.undo(), NO);
         due.is("it stays there", x.skin(1, 0), 0);
-        SkinInRafters y = new SkinInRafters();
+        Run y = new Run();
         y.look(0, 1, 1);
         for (int k = 0; k < 4; k++) {
             y.hide(0, 1);

@@ -8,7 +8,6 @@ import java.util.HashSet;
 import java.util.List;
 import java.util.Map;
 import java.util.Set;
-import java.util.TreeSet;
 import java.util.regex.Matcher;
 import java.util.regex.Pattern;
 
@@ -41,6 +40,10 @@ final class Model {
     private List<Sight> sights = new ArrayList<>();
     private final ArrayDeque<State> undone = new ArrayDeque<>();
     private final ArrayDeque<State> kept = new ArrayDeque<>();
+    // Where skins go from each place by each kind in this town, and the tale of this state: told once, as both are long.
+    private final Map<Integer, int[]> walks = new HashMap<>();
+    private State toldOf;
+    private Tale told;
 
     Model() {
         text = "p0,5;p0,5;p1,2;s0,6,0;s2,6,1;l0,1,1;l1,2,2;";
@@ -88,6 +91,7 @@ final class Model {
         sights.clear();
         undone.clear();
         kept.clear();
+        walks.clear();
         return t.skins.size();
     }
 
@@ -155,7 +159,7 @@ final class Model {
         if (!isSkin(i) || what < 0 || what > 3) {
             return BAD;
         }
-        return new int[] {state.starts.get(i), town.skins.get(i).size, town.skins.get(i).kind, tell(state.starts).finder[i]}[what];
+        return new int[] {state.starts.get(i), town.skins.get(i).size, town.skins.get(i).kind, tale().finder[i]}[what];
     }
 
     private boolean isPlace(int p) {
@@ -196,6 +200,14 @@ final class Model {
             }
         }
         return new int[] {(at + 1) % n, way};
+    }
+
+    private Tale tale() {
+        if (toldOf != state) {
+            told = tell(state.starts);
+            toldOf = state;
+        }
+        return told;
     }
 
     private Tale tell(List<Integer> starts) {
@@ -262,18 +274,18 @@ final class Model {
     }
 
     int where(int i, int t) {
-        return isSkin(i) && isDay(t) ? tell(state.starts).at[i][t] : BAD;
+        return isSkin(i) && isDay(t) ? tale().at[i][t] : BAD;
     }
 
     int size(int i, int t) {
-        return isSkin(i) && isDay(t) ? tell(state.starts).size[i][t] : BAD;
+        return isSkin(i) && isDay(t) ? tale().size[i][t] : BAD;
     }
 
     int woman(int i, int what) {
         if (!isSkin(i) || what < 0 || what > 2) {
             return BAD;
         }
-        Tale tale = tell(state.starts);
+        Tale tale = tale();
         return new int[][] {tale.prize, tale.day, tale.leave}[what][i];
     }
 
@@ -300,7 +312,7 @@ final class Model {
         if (t < 1 || t > 80) {
             return BAD;
         }
-        return (int) Arrays.stream(tell(state.starts).leave).filter(day -> day != NONE && day <= t).count();
+        return (int) Arrays.stream(tale().leave).filter(day -> day != NONE && day <= t).count();
     }
 
     // ---- hiding, looking
@@ -379,29 +391,29 @@ final class Model {
     }
 
     private int placeOn(int kind, int start, int day) {
+        int[] walk = walks.computeIfAbsent(10 * kind + start, key -> new int[61]);
         int[] now = {start, 1};
-        for (int night = 1; night < day; night++) {
+        for (int t = 1; t <= 60 && walk[60] == 0; t++) {
+            // One more than the place, so that 0 is a day that was not walked yet.
+            walk[t] = now[0] + 1;
             now = moved(kind, now[0], now[1]);
         }
-        return now[0];
+        return walk[day] - 1;
     }
 
     private boolean agrees(int i, int kind, int start) {
         return sights.stream().filter(s -> s.skin == i).allMatch(s -> s.there == (placeOn(kind, start, s.day) == s.place));
     }
 
-    private Set<Integer> startsOf(int i) {
-        Set<Integer> starts = new TreeSet<>();
-        for (int p = 0; p < town.places.size(); p++) {
-            if (agrees(i, town.skins.get(i).kind, p)) {
-                starts.add(p);
-            }
-        }
-        return starts;
-    }
-
     int starts(int i) {
-        return isSkin(i) ? startsOf(i).stream().mapToInt(p -> 1 << p).sum() : BAD;
+        if (!isSkin(i)) {
+            return BAD;
+        }
+        int bits = 0;
+        for (int p = 0; p < town.places.size(); p++) {
+            bits += agrees(i, town.skins.get(i).kind, p) ? 1 << p : 0;
+        }
+        return bits;
     }
 
     int laws(int i) {
@@ -415,16 +427,15 @@ final class Model {
         return bits;
     }
 
-    /** In how many days from this one on these starts can all be met; 1000 if not by day 40. */
-    private int daysToMeet(Set<Integer> left, int kind, int day, Map<String, Integer> known) {
-        if (left.isEmpty()) {
+    /** In how many days from this one on these starts (bits) can all be met; 1000 if not by day 40. */
+    private int daysToMeet(int left, int kind, int day, Map<Integer, Integer> known) {
+        if (left == 0) {
             return 0;
         }
         if (day > 40) {
             return 1000;
         }
-        String key = day + " " + left;
-        Integer before = known.get(key);
+        Integer before = known.get(1000 * left + day);
         if (before != null) {
             return before;
         }
@@ -432,16 +443,15 @@ final class Model {
         for (int p = 0; p < town.places.size(); p++) {
             fewest = Math.min(fewest, 1 + daysToMeet(unmet(left, kind, day, p), kind, day + 1, known));
         }
-        known.put(key, fewest);
+        known.put(1000 * left + day, fewest);
         return fewest;
     }
 
-    private Set<Integer> unmet(Set<Integer> left, int kind, int day, int p) {
-        Set<Integer> unmet = new TreeSet<>();
-        for (int start : left) {
-            if (placeOn(kind, start, day) != p) {
-                unmet.add(start);
-            }
+    private int unmet(int left, int kind, int day, int p) {
+        int unmet = 0;
+        for (int start = 0; start < town.places.size(); start++) {
+            boolean met = placeOn(kind, start, day) == p;
+            unmet += met ? 0 : left & 1 << start;
         }
         return unmet;
     }
@@ -450,9 +460,9 @@ final class Model {
         if (!isSkin(i) || what < 0 || what > 1) {
             return BAD;
         }
-        Set<Integer> starts = startsOf(i);
+        int starts = starts(i);
         int kind = town.skins.get(i).kind;
-        Map<String, Integer> known = new HashMap<>();
+        Map<Integer, Integer> known = new HashMap<>();
         int days = daysToMeet(starts, kind, 1, known);
         if (what == 0) {
             return days >= 1000 ? NONE : days;

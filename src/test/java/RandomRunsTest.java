@@ -3,11 +3,11 @@ import java.util.Random;
 /** Long runs of calls drawn from a fixed seed, each answer beside the one of Model. */
 final class RandomRunsTest {
     private static final Due due = new Due("RandomRunsTest");
-    private static final int RUNS = 150, CALLS = 512;
+    private static final int RUNS = 150;
     private static final int[] EXTREMES = {Integer.MIN_VALUE, Integer.MAX_VALUE, -2, 1 << 16, -70000, 256, 512};
 
     private final Random random;
-    private final SkinInRafters x = new SkinInRafters();
+    private final Run x = new Run();
     private final Model model = new Model();
 
     private RandomRunsTest(long seed) {
@@ -22,13 +22,12 @@ final class RandomRunsTest {
     }
 
     private void run(String name) {
-        int calls = 0;
-        while (calls < CALLS && !due.hasFailed()) {
-            if (random.nextInt(60) == 0) {
-                calls += layATown(name);
+        while (x.callsLeft() > 0 && !due.hasFailed()) {
+            String text = random.nextInt(60) == 0 ? aText() : "";
+            if (!text.isEmpty() && text.length() + 3 <= x.callsLeft()) {
+                layATown(name, text);
             } else {
-                callOne(name + " call " + calls + " ");
-                calls++;
+                callOne(name + ", " + x.callsLeft() + " calls left: ");
             }
         }
     }
@@ -60,22 +59,20 @@ final class RandomRunsTest {
         return random.nextBoolean() ? about(1, 60) : about(1, 9);
     }
 
-    private int layATown(String name) {
-        int calls = 1;
+    private void layATown(String name, String town) {
         due.is(name + " wipe", x.wipe(), model.wipe());
-        byte[] text = aText().getBytes(java.nio.charset.StandardCharsets.ISO_8859_1);
-        for (int at = 0; at < text.length; calls++) {
-            int n = Math.min(1 + random.nextInt(8), text.length - at);
+        byte[] text = town.getBytes(java.nio.charset.StandardCharsets.ISO_8859_1);
+        int n;
+        for (int at = 0; at < text.length; at += n) {
+            n = Math.min(1 + random.nextInt(8), text.length - at);
             long v = random.nextLong();
             for (int k = 0; k < n; k++) {
                 v = v << 8 | text[at + k] & 255;
             }
             due.is(name + " write", x.write(n, v), model.write(n, v));
-            at += n;
         }
         due.is(name + " fault", x.fault(), model.fault());
         due.is(name + " lay", x.lay(), model.lay());
-        return calls + 2;
     }
 
     private String aText() {

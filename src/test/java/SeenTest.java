@@ -18,8 +18,8 @@ final class SeenTest {
     }
 
     private static void seen() {
-        SkinInRafters x = new SkinInRafters();
-        String before = Towns.whole(x);
+        Run x = new Run();
+        String before = x.whole();
         for (int i : WRONG_SKINS) {
             due.is("seen(" + i + ", 0, 1)", x.seen(i, 0, 1, true), BAD);
         }
@@ -29,20 +29,20 @@ final class SeenTest {
         for (int t : new int[] {-1, 0, 61, Integer.MIN_VALUE, Integer.MAX_VALUE}) {
             due.is("seen(0, 0, " + t + ")", x.seen(0, 0, t, true), BAD);
         }
-        due.is("BAD changes nothing", Towns.whole(x).equals(before) ? 1 : 0, 1);
+        due.same("BAD changes nothing", x.whole(), before);
         for (int k = 1; k <= 8; k++) {
             due.is("seen", x.seen(k % 2, k % 3, k == 8 ? 60 : k, k % 2 == 0), k);
         }
-        String full = Towns.whole(x);
+        String full = x.whole();
         due.is("seen too many", x.seen(0, 0, 1, true), FULL);
         due.is("BAD ahead of FULL", x.seen(0, 0, 61, true), BAD);
-        due.is("FULL changes nothing", Towns.whole(x).equals(full) ? 1 : 0, 1);
+        due.same("FULL changes nothing", x.whole(), full);
         due.is("count", x.count(3), 8);
         due.is("seen is not undone", x.undo(), Due.NO);
     }
 
     private static void forget() {
-        SkinInRafters x = new SkinInRafters();
+        Run x = new Run();
         due.is("forget nothing", x.forget(), 0);
         x.seen(0, 1, 1, true);
         x.seen(0, 1, 1, true);
@@ -56,7 +56,7 @@ final class SeenTest {
     }
 
     private static void starts() {
-        SkinInRafters x = Towns.laid("p0,5;p1,5;p0,2;p2,4;s0,9,0;s0,9,1;s0,9,2;s0,9,3;l0,0,1;l1,1,2;l2,2,3;");
+        Run x = Towns.laid("p0,5;p1,5;p0,2;p2,4;s0,9,0;s0,9,1;s0,9,2;s0,9,3;l0,0,1;l1,1,2;l2,2,3;");
         for (int i = 0; i < 4; i++) {
             due.is("starts of " + i + ", nothing seen", x.starts(i), 15);
         }
@@ -85,7 +85,7 @@ final class SeenTest {
     }
 
     private static void startsBySeveral() {
-        SkinInRafters x = Towns.laid("p0,5;p0,5;p0,5;s0,9,1;s2,9,0;");
+        Run x = Towns.laid("p0,5;p0,5;p0,5;s0,9,1;s2,9,0;");
         x.seen(0, 0, 1, false);
         due.is("not from 0", x.starts(0), 0b110);
         x.seen(0, 0, 2, false);
@@ -103,7 +103,7 @@ final class SeenTest {
     }
 
     private static void laws() {
-        SkinInRafters x = Towns.laid("p0,5;p1,5;p0,2;p2,4;s0,9,0;s2,9,3;");
+        Run x = Towns.laid("p0,5;p1,5;p0,2;p2,4;s0,9,0;s2,9,3;");
         due.is("laws, nothing seen", x.laws(0), 15);
         x.seen(0, 2, 3, true);
         // From 0 on day 3: STAY 0, NEXT 2, FRO 2, HOME 2.
@@ -128,12 +128,12 @@ final class SeenTest {
         }
     }
 
-    private static int[] sure(SkinInRafters x, int i) {
+    private static int[] sure(Run x, int i) {
         return new int[] {x.sure(i, 0), x.sure(i, 1)};
     }
 
     private static void sureOfStaying() {
-        SkinInRafters x = Towns.laid("p0,5;".repeat(9) + "s0,9,0;l0,0,1;");
+        Run x = Towns.laid("p0,5;".repeat(9) + "s0,9,0;l0,0,1;");
         due.are("nine places", sure(x, 0), 9, 0);
         x.seen(0, 0, 1, false);
         x.seen(0, 1, 7, false);
@@ -161,19 +161,19 @@ final class SeenTest {
 
     private static void sureFirstPlace() {
         // By HOME from 1, 2 or 3 it is at 0 on day 2: whatever the first look is, the second one is sure.
-        SkinInRafters x = Towns.laid("p0,5;p0,5;p0,5;p0,5;s0,9,3;");
+        Run x = Towns.laid("p0,5;p0,5;p0,5;p0,5;s0,9,3;");
         x.seen(0, 0, 1, false);
         due.are("an idle look first", sure(x, 0), 2, 0);
         x.seen(0, 2, 1, true);
         due.are("one start", sure(x, 0), 1, 2);
         // By FRO from 0 or 2 of three it is at 1 on day 2; from 1 at 2: starts 0, 1 and 2 need 1 first.
-        SkinInRafters fro = Towns.laid("p0,5;p0,5;p0,5;s0,9,2;");
+        Run fro = Towns.laid("p0,5;p0,5;p0,5;s0,9,2;");
         fro.seen(0, 1, 1, false);
         due.are("an idle look at 0 first", sure(fro, 0), 2, 0);
     }
 
     private static void sureWrong() {
-        SkinInRafters x = new SkinInRafters();
+        Run x = new Run();
         for (int i : WRONG_SKINS) {
             due.is("sure(" + i + ", 0)", x.sure(i, 0), BAD);
             due.is("sure(" + i + ", 1)", x.sure(i, 1), BAD);
@@ -184,8 +184,8 @@ final class SeenTest {
         x.seen(0, 0, 1, false);
         due.is("BAD ahead of NONE", x.sure(0, 2), BAD);
         due.is("sure of no start", x.sure(0, 1), NONE);
-        String before = Towns.whole(x);
+        String before = x.whole();
         x.sure(1, 0);
-        due.is("sure changes nothing", Towns.whole(x).equals(before) ? 1 : 0, 1);
+        due.same("sure changes nothing", x.whole(), before);
     }
 }

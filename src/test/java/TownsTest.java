@@ -18,7 +18,7 @@ final class TownsTest {
     }
 
     private static void aNewObject() {
-        SkinInRafters x = new SkinInRafters();
+        Run x = new Run();
         due.are("count", new int[] {x.count(0), x.count(1), x.count(2), x.count(3), x.count(4), x.count(5), x.count(6)},
                 3, 2, 2, 0, 0, 0, 0);
         due.are("houses", new int[] {x.place(0, 0), x.place(1, 0), x.place(2, 0)}, 0, 0, 1);
@@ -42,7 +42,7 @@ final class TownsTest {
     }
 
     private static void write() {
-        SkinInRafters x = new SkinInRafters();
+        Run x = new Run();
         int[] wrong = {0, -1, 9, 10, 300, Integer.MIN_VALUE, Integer.MAX_VALUE};
         for (int n : wrong) {
             due.is("write(" + n + ")", x.write(n, 0x3B), BAD);
@@ -71,7 +71,7 @@ final class TownsTest {
     }
 
     private static void wipe() {
-        SkinInRafters x = new SkinInRafters();
+        Run x = new Run();
         due.is("wipe of none", x.wipe(), 0);
         Towns.written(x, "p0,5;x");
         due.is("fault ahead of wipe", x.fault(), 5);
@@ -190,7 +190,7 @@ final class TownsTest {
         due.is("lay of a look at a place told behind", Towns.layOf("p0,5;s0,1,0;l0,1,1;p0,5;"), 1);
         due.is("lay of five", Towns.layOf("p0,5;".repeat(9) + "s8,1,0;".repeat(5) + "l4,8,60;".repeat(9)), 5);
 
-        SkinInRafters x = Towns.laid("p1,1;s0,1,0;w7;t7;p2,2;w2;t3;l0,1,2;");
+        Run x = Towns.laid("p1,1;s0,1,0;w7;t7;p2,2;w2;t3;l0,1,2;");
         due.is("the text stays", x.count(6), 36);
         due.is("places", x.count(0), 2);
         due.is("looks", x.count(2), 1);
@@ -214,15 +214,15 @@ final class TownsTest {
     }
 
     private static void layForgets() {
-        SkinInRafters x = new SkinInRafters();
+        Run x = new Run();
         x.seen(0, 0, 1, true);
         x.hide(0, 1);
         x.look(0, 2, 2);
         x.keep();
         Towns.written(x, "p0,5;s1,1,0;");
-        String before = Towns.whole(x);
+        String before = x.whole();
         due.is("lay that cannot be", x.lay(), NO);
-        due.is("nothing changes then", Towns.whole(x).equals(before) ? 1 : 0, 1);
+        due.same("nothing changes then", x.whole(), before);
         Towns.written(x, "p0,5;");
         due.is("lay", x.lay(), 1);
         due.are("what is forgotten", new int[] {x.count(2), x.count(3), x.count(4), x.count(5)}, 0, 0, 0, 0);
@@ -238,7 +238,7 @@ final class TownsTest {
     }
 
     private static void place() {
-        SkinInRafters x = Towns.laid("p5,10;p0,1;s0,1,0;p3,7;");
+        Run x = Towns.laid("p5,10;p0,1;s0,1,0;p3,7;");
         due.are("place", new int[] {x.place(0, 0), x.place(0, 1), x.place(1, 0), x.place(1, 1), x.place(2, 0), x.place(2, 1)},
                 5, 10, 0, 1, 3, 7);
         int[] wrong = {-1, 3, 9, Integer.MIN_VALUE, Integer.MAX_VALUE};
@@ -251,7 +251,7 @@ final class TownsTest {
     }
 
     private static void skin() {
-        SkinInRafters x = Towns.laid("p0,5;p0,5;s1,20,3;s0,1,2;s0,10,0;l2,0,60;l1,1,2;");
+        Run x = Towns.laid("p0,5;p0,5;s1,20,3;s0,1,2;s0,10,0;l2,0,60;l1,1,2;");
         due.are("skin 0", new int[] {x.skin(0, 0), x.skin(0, 1), x.skin(0, 2), x.skin(0, 3)}, 1, 20, 3, NONE);
         due.are("skin 1", new int[] {x.skin(1, 0), x.skin(1, 1), x.skin(1, 2), x.skin(1, 3)}, 0, 1, 2, 1);
         due.are("skin 2", new int[] {x.skin(2, 0), x.skin(2, 1), x.skin(2, 2), x.skin(2, 3)}, 0, 10, 0, 2);
@@ -263,9 +263,9 @@ final class TownsTest {
         }
         due.is("skin(0, -1)", x.skin(0, -1), BAD);
         due.is("skin(0, 4)", x.skin(0, 4), BAD);
-        SkinInRafters smoked = Towns.laid("p0,5;s0,9,1;w1;");
+        Run smoked = Towns.laid("p0,5;s0,9,1;w1;");
         due.is("the size at first, smoke or none", smoked.skin(0, 1), 9);
-        SkinInRafters swapped = Towns.laid("p0,5;p0,5;s0,5,0;s1,5,0;l0,1,3;l1,0,4;");
+        Run swapped = Towns.laid("p0,5;p0,5;s0,5,0;s1,5,0;l0,1,3;l1,0,4;");
         due.are("found by another", new int[] {swapped.skin(0, 3), swapped.skin(1, 3)}, 1, 0);
     }
 }
